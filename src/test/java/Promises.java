@@ -664,6 +664,9 @@ public final class Promises {
         lay(x, 0, 0, 0, 0, 0, 0);
         ratio(x, "five of six", x.ways(0), 90, 1);
         due("all three in all", x.asked(), 7);
+        lay(x, 0, 5, 6);
+        ratio(x, "one way", x.ways(0), 1, 1);
+        due("the bean in all", x.asked(), 8);
         lay(x, 0, 4);
         ratio(x, "none", x.ways(0), 0, 1);
         due("in all of none", x.asked(), 0);

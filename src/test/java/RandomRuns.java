@@ -781,7 +781,7 @@ public final class RandomRuns {
             case 27: call("when", i, some(0, 8)); break;
             case 28: call("sooner", i, some(0, 8), some(0, 40)); break;
             case 29: newSaying(Math.floorMod(r, 6)); call("soonest", r, some(0, 5)); break;
-            case 30: newSaying(Math.floorMod(r, 6)); call("ways", r); call("none", r); break;
+            case 30: newSaying(Math.floorMod(r, 6)); call("ways", r); call("asked"); call("none", r); break;
             case 31: call("often", some(0, 9)); break;
             case 32: case 33:
                 newPairs(Math.floorMod(r, 6));
