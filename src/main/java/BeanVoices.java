@@ -28,6 +28,11 @@ public final class BeanVoices {
     private static final int PASSING = 0, WATERING = 1, PICKING = 2, EATING = 3;
     private static final int DEED_BY = 10;
 
+    /** What plant() tells of a PLANT and count() of all. */
+    private static final int WETNESS = 4, PICKED = 5, FEATURE_LAST = 7;
+
+    private static final int COUNT_LAST = 10;
+
     private final Shelf rows = new Shelf(ROWS, ROW_MOST);
     private final Shelf texts = new Shelf(TEXTS, TEXT_MOST);
     private final Shelf kept = new Shelf(KEPT, DEEDS_MOST);
@@ -172,7 +177,7 @@ public final class BeanVoices {
 
     public int plant(int i, int what) {
         Plant plant = terrace.plantOf(i);
-        if (plant == null || what < 0 || what > 7) {
+        if (plant == null || what < 0 || what > FEATURE_LAST) {
             return BAD;
         }
         told = plant.feature(what, terrace.today());
@@ -321,16 +326,15 @@ public final class BeanVoices {
     // ---- 4 sayings
 
     public int soonest(int r, int to) {
-        Strip saying = rows.strip(r);
         Strip into = rows.strip(to);
-        if (saying == null || into == null) {
+        if (into == null) {
             return BAD;
         }
-        int refused = refuseSaying(saying);
+        int refused = hearSaying(rows.strip(r));
         if (refused != FINE) {
             return refused;
         }
-        int days = sayings.seekSoonest(saying);
+        int days = sayings.seekSoonest();
         if (days != NONE) {
             into.become(sayings.soonestWay());
         }
@@ -338,30 +342,22 @@ public final class BeanVoices {
     }
 
     public int ways(int r) {
-        Strip saying = rows.strip(r);
-        if (saying == null) {
-            return BAD;
-        }
-        int refused = refuseSaying(saying);
+        int refused = hearSaying(rows.strip(r));
         if (refused != FINE) {
             return refused;
         }
-        sayings.countWays(saying);
+        sayings.countWays();
         chance.tell(sayings.howMany(), 1);
         told = sayings.plantsInAll();
         return 1;
     }
 
     public int none(int r) {
-        Strip saying = rows.strip(r);
-        if (saying == null) {
-            return BAD;
-        }
-        int refused = refuseSaying(saying);
+        int refused = hearSaying(rows.strip(r));
         if (refused != FINE) {
             return refused;
         }
-        sayings.countWays(saying);
+        sayings.countWays();
         if (sayings.howMany() == 0) {
             return found(NOUGHT);
         }
@@ -392,55 +388,38 @@ public final class BeanVoices {
 
     public int seeds(int i, int r) {
         Plant plant = terrace.plantOf(i);
-        Strip pairs = rows.strip(r);
-        if (plant == null || pairs == null) {
+        if (plant == null) {
             return BAD;
         }
-        int refused = refuseClues(pairs);
-        if (refused != FINE) {
-            return refused;
-        }
-        clues.hear(pairs);
-        return clues.seedsOf(plant.kind);
+        int refused = hearPairs(rows.strip(r));
+        return refused != FINE ? refused : clues.seedsOf(plant.kind);
     }
 
     public int kinds(int i, int r) {
         Plant plant = terrace.plantOf(i);
-        Strip pairs = rows.strip(r);
-        if (plant == null || pairs == null) {
+        if (plant == null) {
             return BAD;
         }
-        int refused = refuseClues(pairs);
-        if (refused != FINE) {
-            return refused;
-        }
-        clues.hear(pairs);
-        return clues.kindsBy(plant.seed);
+        int refused = hearPairs(rows.strip(r));
+        return refused != FINE ? refused : clues.kindsBy(plant.seed);
     }
 
     public int guess(int i, int k, int r) {
-        Strip pairs = rows.strip(r);
-        if (terrace.plantOf(i) == null || pairs == null || !isPod(k)) {
+        if (terrace.plantOf(i) == null || !isPod(k)) {
             return BAD;
         }
-        int refused = refuseClues(pairs);
-        if (refused != FINE) {
-            return refused;
-        }
-        clues.hear(pairs);
-        return clues.wordsIn(k);
+        int refused = hearPairs(rows.strip(r));
+        return refused != FINE ? refused : clues.wordsIn(k);
     }
 
     public int listen(int i, int r) {
-        Strip pairs = rows.strip(r);
-        if (terrace.plantOf(i) == null || pairs == null) {
+        if (terrace.plantOf(i) == null) {
             return BAD;
         }
-        int refused = refuseClues(pairs);
+        int refused = hearPairs(rows.strip(r));
         if (refused != FINE) {
             return refused;
         }
-        clues.hear(pairs);
         int pod = clues.bestPod();
         if (pod != NONE) {
             told = clues.greatestPart(pod);
@@ -519,8 +498,8 @@ public final class BeanVoices {
             case 0: return terrace.size();
             case 1: return terrace.today();
             case 2: return terrace.deeds().size();
-            case 3: return terrace.pickedOfAll();
-            case 4: return terrace.wetOfAll();
+            case 3: return terrace.sumOf(PICKED);
+            case 4: return terrace.sumOf(WETNESS);
             case 5: return terrace.leftPlants();
             case 6: return terrace.saidLast();
             case 7: return terrace.runners();
@@ -541,12 +520,12 @@ public final class BeanVoices {
 
     public long digest() {
         long h = 17;
-        for (int what = 0; what <= 10; what++) {
+        for (int what = 0; what <= COUNT_LAST; what++) {
             h = 31 * h + count(what);
         }
         for (int i = 0; i < terrace.size(); i++) {
             Plant plant = terrace.plantOf(i);
-            for (int what = 0; plant != null && what <= 7; what++) {
+            for (int what = 0; plant != null && what <= FEATURE_LAST; what++) {
                 h = 31 * h + plant.feature(what, terrace.today());
             }
         }
@@ -593,11 +572,14 @@ public final class BeanVoices {
         return strip.holds(i, 1) ? FINE : found(BEYOND);
     }
 
-    private int refuseSaying(Strip saying) {
+    private int hearSaying(Strip saying) {
+        if (saying == null) {
+            return BAD;
+        }
         if (terrace.bare()) {
             return STATE;
         }
-        if (saying == null || saying.missing()) {
+        if (saying.missing()) {
             return found(NOTHING);
         }
         if (saying.size() > SAYING_MOST) {
@@ -608,11 +590,15 @@ public final class BeanVoices {
                 return found(UNLIKE);
             }
         }
+        sayings.hear(saying);
         return FINE;
     }
 
-    private int refuseClues(Strip pairs) {
-        if (pairs == null || pairs.missing()) {
+    private int hearPairs(Strip pairs) {
+        if (pairs == null) {
+            return BAD;
+        }
+        if (pairs.missing()) {
             return found(NOTHING);
         }
         if (pairs.size() % 2 != 0) {
@@ -623,6 +609,7 @@ public final class BeanVoices {
                 return found(UNLIKE);
             }
         }
+        clues.hear(pairs);
         return FINE;
     }
 
@@ -907,8 +894,8 @@ public final class BeanVoices {
                 case 1: return start;
                 case 2: return pace;
                 case 3: return seed;
-                case 4: return wet;
-                case 5: return picked;
+                case WETNESS: return wet;
+                case PICKED: return picked;
                 case 6: return ripePods(day);
                 default: return eaten ? 1 : 0;
             }
@@ -1069,20 +1056,11 @@ public final class BeanVoices {
             return bits;
         }
 
-        int pickedOfAll() {
+        int sumOf(int what) {
             int sum = 0;
             for (int i = 0; i < size; i++) {
                 Plant plant = plantOf(i);
-                sum += plant == null ? 0 : plant.picked;
-            }
-            return sum;
-        }
-
-        int wetOfAll() {
-            int sum = 0;
-            for (int i = 0; i < size; i++) {
-                Plant plant = plantOf(i);
-                sum += plant == null ? 0 : plant.wet;
+                sum += plant == null ? 0 : plant.feature(what, days);
             }
             return sum;
         }
@@ -1230,8 +1208,11 @@ public final class BeanVoices {
             return bestWay;
         }
 
-        void countWays(Strip saying) {
+        void hear(Strip saying) {
             words.become(saying);
+        }
+
+        void countWays() {
             harvest.begin();
             many = 0;
             inAll = 0;
@@ -1257,8 +1238,7 @@ public final class BeanVoices {
             }
         }
 
-        int seekSoonest(Strip saying) {
-            words.become(saying);
+        int seekSoonest() {
             way.begin(words.size(), 0);
             used.begin(PLANTS_MOST, 0);
             bestWay.lose();
