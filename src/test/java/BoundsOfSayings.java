@@ -99,6 +99,24 @@ public final class BoundsOfSayings extends Bounds {
         due(soonest(y, 3, 4, 0), 7);
     }
 
+    @Bound(at = "25", says = "In how many DAYS (0 .. 60) a SAYING can be whole first")
+    static void soonestOfSixPlants() {
+        BeanVoices x = sown("b991 b992 b993 b994 b995 b010");
+        due(soonest(x, 0, 1, 2, 3, 4), 5);
+        rowIs(x, 1, 5, 5, 5, 5, 5);
+        BeanVoices y = sown("b990 b990 b015 b020 b039 b042");
+        due(soonest(y, 5, 0, 9, 2), 4);
+        rowIs(y, 1, 2, 3, 4, 5);
+        due(soonest(y, 2, 9, 0, 5, 6), 4);
+        rowIs(y, 1, 5, 4, 3, 2, 2);
+        due(soonest(y, 2, 3), 8);
+        rowIs(y, 1, 5, 5);
+        due(soonest(y, 9, 0), 3);
+        rowIs(y, 1, 4, 3);
+        due(soonest(y, 0, 0), 18);
+        rowIs(y, 1, 0, 1);
+    }
+
     @Bound(at = "25", says = "the first WAY by which it is so soon")
     static void soonestByTheFirstWay() {
         BeanVoices x = sown("b210 b110 b010");
@@ -569,6 +587,10 @@ public final class BoundsOfSayings extends Bounds {
         due(x.guess(0, 1, 0), 0b1000000100);
         lay(x, 0, 0, 9, 0, 8);
         due(x.guess(0, 1, 0), 0);
+        // seed 0 of all but the scarlet, whose seed is 9
+        lay(x, 0, 0, 0);
+        due(x.guess(0, 1, 0), 0b0000001111);
+        due(x.guess(0, 8, 0), 0b0101010000);
     }
 
     @Bound(at = "31", says = "BAD;")
@@ -607,9 +629,9 @@ public final class BoundsOfSayings extends Bounds {
     static void listenToTheFirstBest() {
         BeanVoices x = sown("b010 s019");
         // the last: runner and scarlet, whose pods all say alike, and a stutter
-        int[][] pairs = {{}, {0, 3}, {1, 9}, {0, 3, 1, 4}, {0, 3, 5, 8}, {0, 3, 1, 3}, {0, 3, 8, 7}};
-        int[] pods = {0, 1, 0, 0, 1, 0, 1};
-        int[] parts = {6, 2, 2, 2, 2, 1, 2};
+        int[][] pairs = {{}, {0, 3}, {1, 9}, {0, 3, 1, 4}, {0, 3, 5, 8}, {0, 3, 1, 3}, {0, 0, 1, 1}, {0, 3, 8, 7}};
+        int[] pods = {0, 1, 0, 0, 1, 0, 0, 1};
+        int[] parts = {6, 2, 2, 2, 2, 1, 2, 2};
         for (int n = 0; n < pairs.length; n++) {
             lay(x, 0, pairs[n]);
             answers(x, x.listen(0, 0), pods[n], parts[n]);
