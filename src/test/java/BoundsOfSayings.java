@@ -104,6 +104,10 @@ public final class BoundsOfSayings extends Bounds {
         BeanVoices x = sown("b991 b992 b993 b994 b995 b010");
         due(soonest(x, 0, 1, 2, 3, 4), 5);
         rowIs(x, 1, 5, 5, 5, 5, 5);
+        // of the first one, too, the fifth pod has a day of its own
+        BeanVoices z = sown("b010 b992 b993 b994 b995 b996");
+        due(soonest(z, 0, 1, 2, 3, 4), 5);
+        rowIs(z, 1, 0, 0, 0, 0, 0);
         BeanVoices y = sown("b990 b990 b015 b020 b039 b042");
         due(soonest(y, 5, 0, 9, 2), 4);
         rowIs(y, 1, 2, 3, 4, 5);
